@@ -33,15 +33,20 @@ final class Check {
         throwing(what, IllegalStateException.class, call);
     }
 
-    /** Exactly this class is due: what the machine throws is often a class below it. */
+    /** Exactly this class is due, by a throw of the host's own: not what the machine or a list throws. */
     void throwing(String what, Class<? extends RuntimeException> due, Call call) {
         try {
             report(what + " answered " + call.answer() + ", due is " + due.getSimpleName());
         } catch (RuntimeException thrown) {
-            if (thrown.getClass() != due) {
+            if (thrown.getClass() != due || !thrownByHost(thrown)) {
                 report(what + " threw " + thrown + ", due is " + due.getSimpleName());
             }
         }
+    }
+
+    static boolean thrownByHost(RuntimeException thrown) {
+        StackTraceElement[] trace = thrown.getStackTrace();
+        return trace.length > 0 && trace[0].getClassName().startsWith("ContainerHost");
     }
 
     void finish() {

@@ -25,6 +25,7 @@ public final class ContainersTest {
         freeAnswers();
         forkAnswers();
         forkUpToLimits();
+        fullMemoryHindersNoProcess();
         exitAnswers();
         wrongNumbersAreRefused();
         toldOfContainers();
@@ -336,6 +337,15 @@ public final class ContainersTest {
         check.refused("19: its own group is full", () -> x.fork(0));
         x.exit(1);
         check.equal("19: room again", 2, x.fork(0));
+    }
+
+    private static void fullMemoryHindersNoProcess() {
+        ContainerHost x = hostWithImage();
+        x.newGroup(0, 10, 100, 1);
+        x.run(0, 1, 0, 1);
+        x.allocate(0, 10);
+        check.equal("19: fork with full memory", 2, x.fork(0));
+        check.equal("13: run with full memory", 1, x.run(0, 1, 0, 1));
     }
 
     private static void exitAnswers() {

@@ -155,7 +155,10 @@ public final class NetworksTest {
         check.equal("33: refused calls do not count", 2, x.publish(1, 6, 10));
         check.equal("33: it stays", 0, x.connectHost(9));
         x.stop(1);
-        check.refused("33: a stopped one listens on none", () -> x.publish(1, 6, 11));
+        for (int i = 0; i < 16; i++) {
+            int port = i;
+            check.refused("33: a stopped one listens on none", () -> x.publish(1, port, 11));
+        }
     }
 
     private static void connectAnswers() {

@@ -58,7 +58,7 @@ public final class RandomRunsTest {
     }
 
     private boolean answersTheSame(String when, int kind, int[] a) {
-        String got = told(() -> onReal(kind, a));
+        String got = told(() -> ownThrow(() -> onReal(kind, a)));
         String due = told(() -> onPlain(kind, a));
         if (!got.equals(due)) {
             check.report(when + ", kind " + kind + Arrays.toString(a) + " answered " + got + ", due is " + due);
@@ -154,6 +154,18 @@ public final class RandomRunsTest {
             return String.valueOf(call.answer());
         } catch (RuntimeException thrown) {
             return thrown.getClass().getName();
+        }
+    }
+
+    /** Tells a throw of the machine or of a list from one of the host. */
+    private static int ownThrow(Check.Call call) {
+        try {
+            return call.answer();
+        } catch (RuntimeException thrown) {
+            if (!Check.thrownByHost(thrown)) {
+                throw new UnsupportedOperationException("not thrown by the host", thrown);
+            }
+            throw thrown;
         }
     }
 
