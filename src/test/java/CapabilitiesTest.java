@@ -15,18 +15,13 @@ public final class CapabilitiesTest {
         killStops();
         killRefuses();
         killWithinGroups();
+        everySetAndCapability();
+        killUpAndDownThePath();
         check.finish();
     }
 
-    private static ContainerHost hostWithImage() {
-        ContainerHost x = new ContainerHost();
-        x.newImage(ContainerHost.NONE);
-        x.seal(0);
-        return x;
-    }
-
     private static void raiseAnswers() {
-        ContainerHost x = hostWithImage();
+        ContainerHost x = Hosts.withImage();
         x.run(0, 0, 11, 1);
         check.equal("26: effective already", 11, x.raise(0, BIND));
         x.lower(0, BIND);
@@ -38,7 +33,7 @@ public final class CapabilitiesTest {
     }
 
     private static void lowerAnswers() {
-        ContainerHost x = hostWithImage();
+        ContainerHost x = Hosts.withImage();
         x.run(0, 0, 14, 1);
         check.equal("27: ADMIN", 12, x.lower(0, ADMIN));
         check.equal("27: again", 12, x.lower(0, ADMIN));
@@ -49,7 +44,7 @@ public final class CapabilitiesTest {
     }
 
     private static void dropAnswers() {
-        ContainerHost x = hostWithImage();
+        ContainerHost x = Hosts.withImage();
         x.run(0, 0, 15, 1);
         check.equal("28: ATTACH", 11, x.drop(0, ATTACH));
         check.equal("28: neither effective", 11 * 16 + 11, x.capabilitiesOf(0));
@@ -61,7 +56,7 @@ public final class CapabilitiesTest {
     }
 
     private static void refusals() {
-        ContainerHost x = hostWithImage();
+        ContainerHost x = Hosts.withImage();
         x.run(0, 0, 15, 1);
         for (int number : WRONG_NUMBERS) {
             check.noSuch("26: container " + number, () -> x.raise(number, 0));
@@ -90,7 +85,7 @@ public final class CapabilitiesTest {
     }
 
     private static void killStops() {
-        ContainerHost x = hostWithImage();
+        ContainerHost x = Hosts.withImage();
         x.run(0, 0, 8, 1);
         x.run(0, 0, 15, 1);
         x.run(0, 0, 0, 1);
@@ -110,7 +105,7 @@ public final class CapabilitiesTest {
     }
 
     private static void killRefuses() {
-        ContainerHost x = hostWithImage();
+        ContainerHost x = Hosts.withImage();
         x.run(0, 0, 8, 1);
         x.run(0, 0, 7, 1);
         x.run(0, 0, 0, 1);
@@ -135,7 +130,7 @@ public final class CapabilitiesTest {
     }
 
     private static void killWithinGroups() {
-        ContainerHost x = hostWithImage();
+        ContainerHost x = Hosts.withImage();
         x.newGroup(0, 100, 10, 1);
         x.newGroup(1, 100, 10, 1);
         x.newGroup(0, 100, 10, 1);
@@ -149,5 +144,57 @@ public final class CapabilitiesTest {
         check.equal("29: a group below", 0, x.kill(0, 3));
         check.equal("29: the same group", 0, x.kill(0, 4));
         check.equal("29: from the root", 0, x.kill(1, 2));
+    }
+
+    private static void everySetAndCapability() {
+        for (int permitted = 0; permitted < 16; permitted++) {
+            for (int capability = 0; capability < 4; capability++) {
+                oneCapability(permitted, capability);
+            }
+        }
+    }
+
+    private static void oneCapability(int permitted, int capability) {
+        String what = capability + " of " + permitted;
+        int worth = new int[] {1, 2, 4, 8}[capability];
+        boolean has = permitted / worth % 2 == 1;
+        int without = has ? permitted - worth : permitted;
+        ContainerHost x = Hosts.withImage();
+        x.run(0, 0, permitted, 1);
+        raised(what, x, capability, has, permitted);
+        check.equal("27: " + what, without, x.lower(0, capability));
+        check.equal("27: it stays permitted, " + what, 16 * permitted + without, x.capabilitiesOf(0));
+        raised(what + " again", x, capability, has, permitted);
+        check.equal("28: " + what, without, x.drop(0, capability));
+        check.equal("28: neither, " + what, 16 * without + without, x.capabilitiesOf(0));
+        raised(what + " after the drop", x, capability, false, without);
+        check.equal("28: again, " + what, without, x.drop(0, capability));
+    }
+
+    private static void raised(String what, ContainerHost x, int capability, boolean may, int due) {
+        if (may) {
+            check.equal("26: " + what, due, x.raise(0, capability));
+        } else {
+            check.refused("26: " + what, () -> x.raise(0, capability));
+        }
+    }
+
+    private static void killUpAndDownThePath() {
+        ContainerHost x = Hosts.withImage();
+        for (int group = 1; group < 8; group++) {
+            x.newGroup(group - 1, 100, 10, 1);
+        }
+        for (int group = 0; group < 8; group++) {
+            x.run(0, group, 8, 1);
+        }
+        for (int victim = 0; victim < 7; victim++) {
+            int above = victim;
+            check.refused("29: from the deepest group to " + above, () -> x.kill(7, above));
+        }
+        check.equal("29: none was killed", 8, x.groupProcesses(0));
+        check.equal("29: from the root to the deepest group", 0, x.kill(0, 7));
+        check.equal("29: one group below", 0, x.kill(5, 6));
+        check.refused("29: it is STOPPED", () -> x.kill(5, 6));
+        check.noSuch("29: neither exists", () -> x.kill(8, 8));
     }
 }

@@ -12,6 +12,12 @@ public final class CheckpointsTest {
         restoreRefuses();
         restoreUpToLimits();
         restoreTwenty();
+        restoreUpToTheRootsMemory();
+        restoreUpToTheRootsProcesses();
+        restoreWhenAllIsFull();
+        saveBeforeAnything();
+        restoresPortsAndSetsAsTheyWere();
+        restoresOnEightLayers();
         check.finish();
     }
 
@@ -170,5 +176,110 @@ public final class CheckpointsTest {
         }
         check.refused("37: a 21st container", () -> x.restore(0, 0));
         check.equal("37: 20 processes", 20, x.groupProcesses(0));
+    }
+
+    private static void restoreUpToTheRootsMemory() {
+        ContainerHost x = Hosts.withContainers(1);
+        x.allocate(0, 5000);
+        x.pause(0);
+        x.save(0);
+        check.equal("37: 10000 units", 1, x.restore(0, 0));
+        check.equal("11: the root is full", 10000, x.groupMemory(0));
+        check.refused("37: no more memory", () -> x.restore(0, 0));
+        x.free(1, 4999);
+        check.refused("37: one unit too many", () -> x.restore(0, 0));
+        x.free(1, 1);
+        check.equal("37: it fits again", 2, x.restore(0, 0));
+        check.equal("37: nobody was killed", ContainerHost.RUNNING, x.stateOf(1));
+    }
+
+    private static void restoreUpToTheRootsProcesses() {
+        ContainerHost x = Hosts.withContainers(1);
+        for (int processes = 2; processes <= 50; processes++) {
+            x.fork(0);
+        }
+        x.pause(0);
+        x.save(0);
+        check.equal("37: 100 processes", 1, x.restore(0, 0));
+        check.equal("12: the root is full", 100, x.groupProcesses(0));
+        check.refused("37: no more processes", () -> x.restore(0, 0));
+        for (int processes = 50; processes > 1; processes--) {
+            x.exit(1);
+        }
+        check.refused("37: one process too many", () -> x.restore(0, 0));
+        x.exit(1);
+        check.equal("37: it fits again", 2, x.restore(0, 0));
+    }
+
+    private static void restoreWhenAllIsFull() {
+        ContainerHost x = Hosts.withContainers(20);
+        x.pause(19);
+        x.save(19);
+        check.refused("37: 20 containers", () -> x.restore(0, 0));
+        check.noSuch("37: checkpoint before containers", () -> x.restore(1, 0));
+        check.noSuch("37: group before containers", () -> x.restore(0, 1));
+        x.stop(0);
+        check.refused("37: 20 containers, one STOPPED", () -> x.restore(0, 0));
+        check.equal("38: 20 containers", 20, x.containers());
+        check.noSuch("39: no container 20", () -> x.stateOf(20));
+    }
+
+    private static void saveBeforeAnything() {
+        ContainerHost x = Hosts.withImage();
+        x.newGroup(0, 1, 1, 1);
+        x.run(0, 1, 0, 1);
+        x.pause(0);
+        check.equal("36: the first one", 0, x.save(0));
+        check.equal("36: the same again", 1, x.save(0));
+        check.refused("37: the group is full", () -> x.restore(1, 1));
+        x.stop(0);
+        check.equal("37: it has room again", 1, x.restore(1, 1));
+        check.equal("40: no memory", 0, x.memoryOf(1));
+        check.equal("12: one process", 1, x.groupProcesses(1));
+        check.equal("42: no capabilities", 0, x.capabilitiesOf(1));
+        check.equal("32: no ports", 1, x.listen(1, 4));
+        check.equal("20: its only process", 0, x.exit(1));
+        check.equal("37: once more", 2, x.restore(0, 1));
+        check.noSuch("37: no checkpoint 2", () -> x.restore(2, 1));
+        check.noSuch("37: no checkpoint -1", () -> x.restore(-1, 1));
+    }
+
+    private static void restoresPortsAndSetsAsTheyWere() {
+        ContainerHost x = Hosts.withContainers(2);
+        for (int port = 0; port < 16; port++) {
+            x.listen(0, port);
+        }
+        x.lower(0, ContainerHost.BIND);
+        x.drop(0, ContainerHost.KILL);
+        x.attach(0, 0);
+        x.attach(1, 0);
+        x.pause(0);
+        x.save(0);
+        check.equal("37: beside the saved one", 2, x.restore(0, 0));
+        check.equal("42: as it was saved", 16 * 7 + 6, x.capabilitiesOf(2));
+        check.equal("43: not attached", NONE, x.addressOf(2));
+        check.equal("30: an address of its own", 3, x.attach(2, 0));
+        for (int number = 0; number < 16; number++) {
+            int port = number;
+            check.equal("34: it listens on " + port, 2, x.connect(1, 3, port));
+            check.refused("32: it listens on " + port, () -> x.listen(2, port));
+        }
+        check.equal("33: a port below 4", 1, x.publish(2, 3, 0));
+    }
+
+    private static void restoresOnEightLayers() {
+        ContainerHost x = Hosts.withEightLayers();
+        x.run(7, 0, 15, 1);
+        x.writeFile(0, 0, 500);
+        x.removeFile(0, 1);
+        x.pause(0);
+        x.save(0);
+        x.stop(0);
+        check.equal("37: of a STOPPED one", 1, x.restore(0, 0));
+        check.equal("37: its own content", 500, x.plainFileOf(1, 0));
+        check.equal("37: its own whiteout", 0, x.plainFileOf(1, 1));
+        check.equal("37: its image", 3, x.fileOf(1, 2));
+        check.equal("37: the top of its image", 8, x.fileOf(1, 31));
+        check.refused("9: its image has 8 layers", () -> x.commit(1));
     }
 }

@@ -15,13 +15,6 @@ public final class ContainersTest {
         pauseAndResume();
         stopLeavesNothing();
         stopRefuses();
-        allocateFits();
-        allocateKillsTheLargest();
-        allocateKillsOnlyInTheTightGroup();
-        allocateLooksAtTheNearestGroupFirst();
-        allocateKillsTheOneThatAsks();
-        allocateKillsPausedAndEmpty();
-        allocateRefuses();
         freeAnswers();
         forkAnswers();
         forkUpToLimits();
@@ -29,18 +22,17 @@ public final class ContainersTest {
         exitAnswers();
         wrongNumbersAreRefused();
         toldOfContainers();
+        runWithLeastAndGreatest();
+        aStoppedOneNeverRunsAgain();
+        aPausedOneIsRefused();
+        exitLeavesNothing();
+        freeToTheLastUnit();
+        allCallsOfOneObject();
         check.finish();
     }
 
-    private static ContainerHost hostWithImage() {
-        ContainerHost x = new ContainerHost();
-        x.newImage(NONE);
-        x.seal(0);
-        return x;
-    }
-
     private static void runMakes() {
-        ContainerHost x = hostWithImage();
+        ContainerHost x = Hosts.withImage();
         check.equal("13: first", 0, x.run(0, 0, 0, 1));
         check.equal("13: second", 1, x.run(0, 0, 15, 100));
         check.equal("13: state", RUNNING, x.stateOf(0));
@@ -56,7 +48,7 @@ public final class ContainersTest {
     }
 
     private static void runRefuses() {
-        ContainerHost x = hostWithImage();
+        ContainerHost x = Hosts.withImage();
         x.newImage(NONE);
         check.noSuch("13: image -1", () -> x.run(-1, 0, 0, 1));
         check.noSuch("13: image 2", () -> x.run(2, 0, 0, 1));
@@ -76,7 +68,7 @@ public final class ContainersTest {
     }
 
     private static void runTwenty() {
-        ContainerHost x = hostWithImage();
+        ContainerHost x = Hosts.withImage();
         for (int i = 0; i < 20; i++) {
             check.equal("13: run", i, x.run(0, 0, 0, 1));
             x.stop(i);
@@ -87,7 +79,7 @@ public final class ContainersTest {
     }
 
     private static void runUpToProcessLimits() {
-        ContainerHost x = hostWithImage();
+        ContainerHost x = Hosts.withImage();
         x.newGroup(0, 100, 3, 1);
         x.newGroup(1, 100, 2, 1);
         x.run(0, 1, 0, 1);
@@ -108,7 +100,7 @@ public final class ContainersTest {
     }
 
     private static void pauseAndResume() {
-        ContainerHost x = hostWithImage();
+        ContainerHost x = Hosts.withImage();
         x.run(0, 0, 15, 1);
         x.allocate(0, 10);
         check.refused("15: RUNNING", Check.of(() -> x.resume(0)));
@@ -126,7 +118,7 @@ public final class ContainersTest {
     }
 
     private static void stopLeavesNothing() {
-        ContainerHost x = hostWithImage();
+        ContainerHost x = Hosts.withImage();
         x.run(0, 0, 15, 1);
         x.run(0, 0, 15, 1);
         x.allocate(0, 70);
@@ -156,148 +148,19 @@ public final class ContainersTest {
     }
 
     private static void stopRefuses() {
-        ContainerHost x = hostWithImage();
+        ContainerHost x = Hosts.withImage();
         x.run(0, 0, 0, 1);
         x.pause(0);
         check.equal("16: a paused one", 0, x.stop(0));
         check.refused("16: STOPPED", () -> x.stop(0));
     }
 
-    private static void allocateFits() {
-        ContainerHost x = hostWithImage();
-        x.run(0, 0, 0, 1);
-        x.run(0, 0, 0, 1);
-        check.equal("17: one unit", 1, x.allocate(0, 1));
-        check.equal("17: more", 4999, x.allocate(0, 4998));
-        check.equal("17: most units", 5000, x.allocate(1, 5000));
-        check.equal("17: up to the limit", 5000, x.allocate(0, 1));
-        check.equal("17: none was killed", RUNNING, x.stateOf(1));
-        check.equal("17: the root is full", 10000, x.groupMemory(0));
-    }
-
-    private static void allocateKillsTheLargest() {
-        ContainerHost x = hostWithImage();
-        x.newGroup(0, 100, 100, 1);
-        for (int i = 0; i < 5; i++) {
-            x.run(0, 1, 0, 1);
-        }
-        x.allocate(0, 30);
-        x.allocate(1, 20);
-        x.allocate(2, 30);
-        x.allocate(3, 10);
-        check.equal("17: two are killed", 60, x.allocate(4, 60));
-        check.equal("17: the greater number first", STOPPED, x.stateOf(2));
-        check.equal("17: then the lesser one", STOPPED, x.stateOf(0));
-        check.equal("17: not a smaller one", RUNNING, x.stateOf(1));
-        check.equal("17: not the smallest", RUNNING, x.stateOf(3));
-        check.equal("17: memory of the group", 90, x.groupMemory(1));
-        check.equal("17: processes of the group", 3, x.groupProcesses(1));
-    }
-
-    private static void allocateKillsOnlyInTheTightGroup() {
-        ContainerHost x = hostWithImage();
-        x.newGroup(0, 100, 100, 1);
-        x.newGroup(1, 100, 100, 1);
-        x.run(0, 0, 0, 1);
-        x.run(0, 1, 0, 1);
-        x.run(0, 2, 0, 1);
-        x.allocate(0, 500);
-        x.allocate(1, 40);
-        x.allocate(2, 50);
-        check.equal("17: the parent is tight", 51, x.allocate(1, 11));
-        check.equal("17: the one below is killed", STOPPED, x.stateOf(2));
-        check.equal("17: the one above is not", RUNNING, x.stateOf(0));
-    }
-
-    private static void allocateLooksAtTheNearestGroupFirst() {
-        ContainerHost x = hostWithImage();
-        x.newGroup(0, 100, 100, 1);
-        x.newGroup(1, 50, 100, 1);
-        x.run(0, 1, 0, 1);
-        x.run(0, 2, 0, 1);
-        x.run(0, 2, 0, 1);
-        x.allocate(0, 60);
-        x.allocate(1, 30);
-        check.equal("17: both groups are tight", 45, x.allocate(2, 45));
-        check.equal("17: the nearest kills first", STOPPED, x.stateOf(1));
-        check.equal("17: then the parent kills", STOPPED, x.stateOf(0));
-        check.equal("17: 45 are left", 45, x.groupMemory(0));
-
-        ContainerHost y = hostWithImage();
-        y.newGroup(0, 100, 100, 1);
-        y.newGroup(1, 50, 100, 1);
-        y.run(0, 1, 0, 1);
-        y.run(0, 2, 0, 1);
-        y.run(0, 2, 0, 1);
-        y.allocate(0, 60);
-        y.allocate(1, 30);
-        check.equal("17: 40 fit after the first", 40, y.allocate(2, 40));
-        check.equal("17: so the parent kills none", RUNNING, y.stateOf(0));
-    }
-
-    private static void allocateKillsTheOneThatAsks() {
-        ContainerHost x = hostWithImage();
-        x.newGroup(0, 100, 100, 1);
-        x.run(0, 1, 0, 1);
-        x.run(0, 1, 0, 1);
-        x.allocate(0, 20);
-        x.allocate(1, 30);
-        check.equal("17: it has the most itself", NONE, x.allocate(1, 1000));
-        check.equal("17: it is STOPPED", STOPPED, x.stateOf(1));
-        check.equal("17: it has nothing", 0, x.memoryOf(1));
-        check.equal("17: the other one goes on", RUNNING, x.stateOf(0));
-        check.equal("17: with its memory", 20, x.groupMemory(1));
-
-        ContainerHost y = hostWithImage();
-        y.newGroup(0, 10, 100, 1);
-        y.run(0, 1, 0, 1);
-        check.equal("17: alone, one too many", NONE, y.allocate(0, 11));
-        check.equal("17: no processes", 0, y.groupProcesses(0));
-    }
-
-    private static void allocateKillsPausedAndEmpty() {
-        ContainerHost x = hostWithImage();
-        x.newGroup(0, 100, 100, 1);
-        x.run(0, 1, 0, 1);
-        x.run(0, 1, 0, 1);
-        x.run(0, 1, 0, 1);
-        x.allocate(0, 60);
-        x.pause(0);
-        check.equal("17: the paused one is killed", 50, x.allocate(1, 50));
-        check.equal("17: it is STOPPED", STOPPED, x.stateOf(0));
-        x.stop(1);
-        check.equal("17: all have none: the last one is killed", NONE, x.allocate(2, 101));
-
-        ContainerHost y = hostWithImage();
-        y.newGroup(0, 100, 100, 1);
-        y.run(0, 1, 0, 1);
-        y.run(0, 1, 0, 1);
-        check.equal("17: an empty one is killed, then the one that asks", NONE, y.allocate(0, 101));
-        check.equal("17: the empty one", STOPPED, y.stateOf(1));
-    }
-
-    private static void allocateRefuses() {
-        ContainerHost x = hostWithImage();
-        x.run(0, 0, 0, 1);
-        check.outOfRange("17: units 0", () -> x.allocate(0, 0));
-        check.outOfRange("17: units 5001", () -> x.allocate(0, 5001));
-        check.outOfRange("17: least units", () -> x.allocate(0, Integer.MIN_VALUE));
-        check.outOfRange("17: greatest units", () -> x.allocate(0, Integer.MAX_VALUE));
-        check.noSuch("17: container before units", () -> x.allocate(1, 0));
-        x.pause(0);
-        check.refused("17: PAUSED", () -> x.allocate(0, 1));
-        check.outOfRange("17: units before state", () -> x.allocate(0, 0));
-        x.stop(0);
-        check.refused("17: STOPPED", () -> x.allocate(0, 1));
-        check.equal("17: nothing allocated", 0, x.groupMemory(0));
-    }
-
     private static void freeAnswers() {
-        ContainerHost x = hostWithImage();
+        ContainerHost x = Hosts.withImage();
         x.run(0, 0, 0, 1);
         x.allocate(0, 5000);
         x.allocate(0, 50);
-        check.equal("18: free", 49, x.free(0, 5000) - 1);
+        check.equal("18: free", 50, x.free(0, 5000));
         check.equal("18: of the group", 50, x.groupMemory(0));
         check.refused("18: less memory", () -> x.free(0, 51));
         check.outOfRange("18: units 0", () -> x.free(0, 0));
@@ -315,7 +178,7 @@ public final class ContainersTest {
     }
 
     private static void forkAnswers() {
-        ContainerHost x = hostWithImage();
+        ContainerHost x = Hosts.withImage();
         x.run(0, 0, 0, 1);
         check.equal("19: second process", 2, x.fork(0));
         check.equal("19: third process", 3, x.fork(0));
@@ -327,7 +190,7 @@ public final class ContainersTest {
     }
 
     private static void forkUpToLimits() {
-        ContainerHost x = hostWithImage();
+        ContainerHost x = Hosts.withImage();
         x.newGroup(0, 100, 3, 1);
         x.newGroup(1, 100, 100, 1);
         x.run(0, 1, 0, 1);
@@ -340,7 +203,7 @@ public final class ContainersTest {
     }
 
     private static void fullMemoryHindersNoProcess() {
-        ContainerHost x = hostWithImage();
+        ContainerHost x = Hosts.withImage();
         x.newGroup(0, 10, 100, 1);
         x.run(0, 1, 0, 1);
         x.allocate(0, 10);
@@ -349,7 +212,7 @@ public final class ContainersTest {
     }
 
     private static void exitAnswers() {
-        ContainerHost x = hostWithImage();
+        ContainerHost x = Hosts.withImage();
         x.run(0, 0, 15, 1);
         x.fork(0);
         x.allocate(0, 10);
@@ -371,7 +234,7 @@ public final class ContainersTest {
     }
 
     private static void wrongNumbersAreRefused() {
-        ContainerHost x = hostWithImage();
+        ContainerHost x = Hosts.withImage();
         x.run(0, 0, 15, 1);
         for (int number : WRONG_NUMBERS) {
             check.noSuch("14: container " + number, Check.of(() -> x.pause(number)));
@@ -391,7 +254,7 @@ public final class ContainersTest {
     }
 
     private static void toldOfContainers() {
-        ContainerHost x = hostWithImage();
+        ContainerHost x = Hosts.withImage();
         check.equal("38: none", 0, x.containers());
         x.run(0, 0, 6, 1);
         x.run(0, 0, 12, 3);
@@ -416,5 +279,119 @@ public final class ContainersTest {
         x.pause(1);
         check.equal("39: PAUSED", PAUSED, x.stateOf(1));
         check.equal("43: a paused one stays attached", 31, x.addressOf(1));
+    }
+
+    private static void runWithLeastAndGreatest() {
+        ContainerHost x = Hosts.withEightLayers();
+        check.equal("13: least of all", 0, x.run(0, 0, 0, 1));
+        check.equal("13: greatest of all", 1, x.run(7, 0, 15, 100));
+        for (int set = 1; set < 15; set++) {
+            check.equal("13: run", set + 1, x.run(0, 0, set, 1));
+            check.equal("42: both sets of " + set, set * 17, x.capabilitiesOf(set + 1));
+        }
+        check.equal("42: no capability", 0, x.capabilitiesOf(0));
+        check.equal("42: all capabilities", 255, x.capabilitiesOf(1));
+        x.schedule(115);
+        check.equal("13: one share", 1, x.timeOf(0));
+        check.equal("13: a hundred shares", 100, x.timeOf(1));
+    }
+
+    private static void aStoppedOneNeverRunsAgain() {
+        ContainerHost x = Hosts.withContainers(2);
+        x.attach(0, 0);
+        x.listen(0, 5);
+        x.stop(0);
+        refusedUnlessRunning("STOPPED", x);
+        check.refused("15: STOPPED", Check.of(() -> x.resume(0)));
+        check.refused("16: STOPPED", () -> x.stop(0));
+        check.refused("29: a STOPPED victim", () -> x.kill(1, 0));
+        check.refused("33: STOPPED", () -> x.publish(0, 5, 5));
+        check.refused("36: STOPPED", () -> x.save(0));
+        check.equal("39: it stays STOPPED", STOPPED, x.stateOf(0));
+        check.equal("21: it gets no time", 10, x.schedule(10) + x.timeOf(0));
+        check.equal("41: the other one gets it", 10, x.timeOf(1));
+    }
+
+    private static void aPausedOneIsRefused() {
+        ContainerHost x = Hosts.withContainers(2);
+        x.attach(0, 0);
+        x.allocate(0, 5);
+        x.writeFile(0, 4, 4);
+        x.pause(0);
+        refusedUnlessRunning("PAUSED", x);
+        check.equal("40: its memory stays", 5, x.memoryOf(0));
+        check.equal("42: its capabilities stay", 255, x.capabilitiesOf(0));
+        check.equal("43: it stays attached", 1, x.addressOf(0));
+        check.equal("24: its file stays", 4, x.fileOf(0, 4));
+        check.equal("12: its process stays", 2, x.groupProcesses(0));
+    }
+
+    /** The calls that want the container 0 to be RUNNING. */
+    private static void refusedUnlessRunning(String state, ContainerHost x) {
+        check.refused("14: " + state, Check.of(() -> x.pause(0)));
+        check.refused("17: " + state, () -> x.allocate(0, 1));
+        check.refused("18: " + state, () -> x.free(0, 1));
+        check.refused("19: " + state, () -> x.fork(0));
+        check.refused("20: " + state, () -> x.exit(0));
+        check.refused("22: " + state, () -> x.writeFile(0, 4, 1));
+        check.refused("23: " + state, () -> x.removeFile(0, 4));
+        for (int capability = 0; capability < 4; capability++) {
+            int asked = capability;
+            check.refused("26: " + state, () -> x.raise(0, asked));
+            check.refused("27: " + state, () -> x.lower(0, asked));
+            check.refused("28: " + state, () -> x.drop(0, asked));
+        }
+        check.refused("29: " + state, () -> x.kill(0, 1));
+        check.refused("30: " + state, () -> x.attach(0, 1));
+        check.refused("31: " + state, () -> x.detach(0));
+        check.refused("32: " + state, () -> x.listen(0, 6));
+        check.refused("34: " + state, () -> x.connect(0, 1, 5));
+    }
+
+    private static void exitLeavesNothing() {
+        ContainerHost x = Hosts.withContainers(2);
+        x.allocate(0, 40);
+        x.writeFile(0, 8, 80);
+        x.attach(0, 3);
+        x.listen(0, 5);
+        x.listen(1, 5);
+        x.publish(0, 5, 1);
+        check.equal("20: its only process", 0, x.exit(0));
+        check.equal("40: no memory", 0, x.memoryOf(0));
+        check.equal("12: no process", 1, x.groupProcesses(0));
+        check.equal("30: its address is free", 1, x.attach(1, 3));
+        check.equal("33: its port is not published", 1, x.publish(1, 5, 1));
+        check.refused("33: it listens on no port", () -> x.publish(0, 5, 2));
+        check.equal("24: its files stay", 80, x.fileOf(0, 8));
+        check.equal("42: its capabilities stay", 255, x.capabilitiesOf(0));
+        check.equal("38: it is still counted", 2, x.containers());
+    }
+
+    private static void freeToTheLastUnit() {
+        ContainerHost x = Hosts.withContainers(1);
+        check.refused("18: nothing to free", () -> x.free(0, 1));
+        check.outOfRange("18: least units", () -> x.free(0, Integer.MIN_VALUE));
+        check.outOfRange("18: greatest units", () -> x.free(0, Integer.MAX_VALUE));
+        x.allocate(0, 5000);
+        check.equal("18: one unit", 4999, x.free(0, 1));
+        check.refused("18: one unit too many", () -> x.free(0, 5000));
+        check.equal("18: the last one", 0, x.free(0, 4999));
+        check.equal("18: it goes on", RUNNING, x.stateOf(0));
+        check.equal("11: of the root", 0, x.groupMemory(0));
+    }
+
+    /** The 512th call is the last one that is promised. */
+    private static void allCallsOfOneObject() {
+        ContainerHost x = Hosts.withContainers(1);
+        for (int call = 4; call < 512; call++) {
+            check.equal("21: call " + call, 10000, x.schedule(10000));
+        }
+        check.equal("41: the 512th call", 508 * 10000, x.timeOf(0));
+
+        ContainerHost y = Hosts.withContainers(1);
+        for (int call = 4; call < 512; call++) {
+            check.outOfRange("21: call " + call, () -> y.schedule(0));
+        }
+        check.equal("41: after calls that throw", 0, y.timeOf(0));
     }
 }

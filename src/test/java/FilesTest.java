@@ -12,6 +12,9 @@ public final class FilesTest {
         directoryZeroAsksForAdmin();
         seenInAnyState();
         seenRefuses();
+        throughNineLayers();
+        leastAndGreatestContents();
+        theWholeDirectoryZero();
         check.finish();
     }
 
@@ -164,5 +167,53 @@ public final class FilesTest {
         check.noSuch("24: file 32", () -> x.fileOf(0, 32));
         check.noSuch("25: container 1", () -> x.plainFileOf(1, 0));
         check.noSuch("25: file 32", () -> x.plainFileOf(0, 32));
+    }
+
+    private static void throughNineLayers() {
+        ContainerHost x = Hosts.withEightLayers();
+        x.run(7, 0, 15, 1);
+        for (int file = 0; file < 8; file++) {
+            seen("of the layer " + file, x, 0, file, file + 1);
+        }
+        seen("the top of the image", x, 0, 31, 8);
+        seen("in none of the layers", x, 0, 30, 0);
+        check.equal("22: above eight layers", 8, x.writeFile(0, 31, 9));
+        seen("its own, above eight layers", x, 0, 31, 9);
+        check.equal("23: the lowest layer's", 1, x.removeFile(0, 0));
+        seen("whited out above eight layers", x, 0, 0, 0);
+        check.equal("23: its own", 9, x.removeFile(0, 31));
+        seen("whited out, and all below", x, 0, 31, 0);
+        check.equal("7: the image stays", 8, x.shown(7, 31));
+    }
+
+    private static void leastAndGreatestContents() {
+        ContainerHost x = Hosts.withContainers(1);
+        check.equal("22: least content", 0, x.writeFile(0, 0, 1));
+        check.equal("22: greatest content", 0, x.writeFile(0, 31, 999));
+        seen("least content", x, 0, 0, 1);
+        seen("greatest content", x, 0, 31, 999);
+        check.equal("23: least content", 1, x.removeFile(0, 0));
+        check.equal("23: greatest content", 999, x.removeFile(0, 31));
+        check.refused("23: an image without files", () -> x.removeFile(0, 16));
+        check.equal("22: after the whiteout", 0, x.writeFile(0, 0, 2));
+        seen("in place of the whiteout", x, 0, 0, 2);
+    }
+
+    private static void theWholeDirectoryZero() {
+        ContainerHost x = hostWithLayers();
+        x.run(0, 0, 13, 1);
+        for (int number = 0; number < 32; number++) {
+            int file = number;
+            if (file < 4) {
+                check.refused("22: file " + file + " without ADMIN", () -> x.writeFile(0, file, 1));
+                check.refused("23: file " + file + " without ADMIN", () -> x.removeFile(0, file));
+            } else {
+                check.equal("22: file " + file, file < 12 ? 100 + file : 0, x.writeFile(0, file, 1));
+                check.equal("23: file " + file, 1, x.removeFile(0, file));
+            }
+        }
+        check.outOfRange("22: content before ADMIN", () -> x.writeFile(0, 0, 1000));
+        check.noSuch("22: file before ADMIN", () -> x.writeFile(0, -1, 1));
+        check.noSuch("23: file before ADMIN", () -> x.removeFile(0, -1));
     }
 }

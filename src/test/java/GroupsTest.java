@@ -9,14 +9,11 @@ public final class GroupsTest {
         newGroupLimits();
         memoryOfGroups();
         processesOfGroups();
+        emptyGroups();
+        limitsBeyondThoseAbove();
+        theRootsLimits();
+        aPathOfEightGroups();
         check.finish();
-    }
-
-    private static ContainerHost hostWithImage() {
-        ContainerHost x = new ContainerHost();
-        x.newImage(ContainerHost.NONE);
-        x.seal(0);
-        return x;
     }
 
     private static void newGroupNumbers() {
@@ -48,7 +45,7 @@ public final class GroupsTest {
     }
 
     private static void newGroupLimits() {
-        ContainerHost x = hostWithImage();
+        ContainerHost x = Hosts.withImage();
         x.newGroup(0, 5, 2, 1);
         x.run(0, 1, 0, 1);
         x.run(0, 1, 0, 1);
@@ -59,7 +56,7 @@ public final class GroupsTest {
     }
 
     private static void memoryOfGroups() {
-        ContainerHost x = hostWithImage();
+        ContainerHost x = Hosts.withImage();
         x.newGroup(0, 1000, 10, 1);
         x.newGroup(1, 1000, 10, 1);
         x.newGroup(0, 1000, 10, 1);
@@ -86,7 +83,7 @@ public final class GroupsTest {
     }
 
     private static void processesOfGroups() {
-        ContainerHost x = hostWithImage();
+        ContainerHost x = Hosts.withImage();
         x.newGroup(0, 1000, 10, 1);
         x.newGroup(1, 1000, 10, 1);
         for (int group = 0; group < 3; group++) {
@@ -108,5 +105,72 @@ public final class GroupsTest {
             check.noSuch("12: group " + number, () -> x.groupProcesses(number));
         }
         check.noSuch("12: group 3", () -> x.groupProcesses(3));
+    }
+
+    private static void emptyGroups() {
+        ContainerHost x = Hosts.withImage();
+        x.newGroup(0, 1, 1, 1);
+        check.equal("11: a new group", 0, x.groupMemory(1));
+        check.equal("12: a new group", 0, x.groupProcesses(1));
+        check.equal("13: its first process", 0, x.run(0, 1, 0, 1));
+        check.equal("17: its first unit", 1, x.allocate(0, 1));
+        check.equal("11: full", 1, x.groupMemory(1));
+        check.equal("12: full", 1, x.groupProcesses(1));
+        check.refused("13: no second process", () -> x.run(0, 1, 0, 1));
+        x.exit(0);
+        check.equal("11: empty again", 0, x.groupMemory(1));
+        check.equal("12: empty again", 0, x.groupProcesses(1));
+        check.equal("13: room for one again", 1, x.run(0, 1, 0, 1));
+    }
+
+    private static void limitsBeyondThoseAbove() {
+        ContainerHost x = Hosts.withImage();
+        x.newGroup(0, 10, 2, 1);
+        check.equal("10: greater limits than its parent's", 2, x.newGroup(1, 10000, 100, 100));
+        x.run(0, 2, 0, 1);
+        check.equal("19: up to the parent's limit", 2, x.fork(0));
+        check.refused("19: over the parent's limit", () -> x.fork(0));
+        check.equal("17: up to the parent's limit", 10, x.allocate(0, 10));
+        check.equal("17: over the parent's limit", ContainerHost.NONE, x.allocate(0, 1));
+    }
+
+    private static void theRootsLimits() {
+        ContainerHost x = Hosts.withContainers(2);
+        x.allocate(0, 5000);
+        check.equal("1: memory up to 10000", 5000, x.allocate(1, 5000));
+        check.equal("11: the root is full", 10000, x.groupMemory(0));
+        for (int processes = 3; processes <= 100; processes++) {
+            x.fork(0);
+        }
+        check.equal("12: processes up to 100", 100, x.groupProcesses(0));
+        check.refused("1: no 101st process", () -> x.fork(1));
+        check.refused("1: nor a container", () -> x.run(0, 0, 0, 1));
+        check.equal("1: 10001 units are too many", ContainerHost.NONE, x.allocate(1, 1));
+        check.equal("19: its process made room", 100, x.fork(0));
+    }
+
+    private static void aPathOfEightGroups() {
+        ContainerHost x = Hosts.withImage();
+        for (int group = 1; group < 8; group++) {
+            x.newGroup(group - 1, 1000, 10, 1);
+        }
+        x.run(0, 7, 0, 1);
+        x.run(0, 3, 0, 1);
+        x.allocate(0, 100);
+        x.allocate(1, 10);
+        x.fork(0);
+        for (int group = 0; group < 8; group++) {
+            check.equal("11: group " + group, group <= 3 ? 110 : 100, x.groupMemory(group));
+            check.equal("12: group " + group, group <= 3 ? 3 : 2, x.groupProcesses(group));
+        }
+        x.stop(0);
+        for (int group = 0; group < 8; group++) {
+            check.equal("11: after the stop, group " + group, group <= 3 ? 10 : 0, x.groupMemory(group));
+            check.equal("12: after the stop, group " + group, group <= 3 ? 1 : 0, x.groupProcesses(group));
+        }
+        check.noSuch("11: no group 8", () -> x.groupMemory(8));
+        check.noSuch("12: no group 8", () -> x.groupProcesses(8));
+        check.noSuch("13: no group 8", () -> x.run(0, 8, 0, 1));
+        check.noSuch("10: no parent 8", () -> x.newGroup(8, 1, 1, 1));
     }
 }

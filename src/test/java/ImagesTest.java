@@ -22,6 +22,15 @@ public final class ImagesTest {
         entriesRefuses();
         commitCopies();
         commitRefuses();
+        everyDirectoryHasItsFourFiles();
+        anEmptyDirectoryIsCleared();
+        whiteoutsInOpaqueDirectories();
+        aLayerFullOfEntries();
+        leastAndGreatestContents();
+        eightLayers();
+        theLowestLayer();
+        commitOfAnEmptyLayer();
+        commitUpToEightLayers();
         check.finish();
     }
 
@@ -326,5 +335,139 @@ public final class ImagesTest {
         check.noSuch("9: eight layers at most", () -> x.entries(9, 8));
         check.refused("9: an 11th image", () -> x.commit(0));
         check.noSuch("9: container 8", () -> x.commit(8));
+    }
+
+    private static void everyDirectoryHasItsFourFiles() {
+        for (int directory = 0; directory < 8; directory++) {
+            ContainerHost x = new ContainerHost();
+            x.newImage(NONE);
+            for (int file = 0; file < 32; file++) {
+                x.write(0, file, file + 1);
+            }
+            x.seal(0);
+            x.newImage(0);
+            check.equal("5: the four files of " + directory, 4, x.clear(1, directory));
+            for (int file = 0; file < 32; file++) {
+                int due = file / 4 == directory ? 0 : file + 1;
+                check.equal("7: file " + file + " with opaque " + directory, due, x.shown(1, file));
+            }
+        }
+    }
+
+    private static void anEmptyDirectoryIsCleared() {
+        ContainerHost x = new ContainerHost();
+        x.newImage(NONE);
+        check.equal("5: nothing was shown", 0, x.clear(0, 0));
+        check.equal("5: it is opaque all the same", 1, x.entries(0, 0));
+        check.equal("5: the last directory", 0, x.clear(0, 7));
+        check.equal("5: both are", 2, x.entries(0, 0));
+        x.write(0, 0, 1);
+        check.equal("5: one file", 1, x.clear(0, 0));
+        check.equal("5: still two entries", 2, x.entries(0, 0));
+    }
+
+    private static void whiteoutsInOpaqueDirectories() {
+        ContainerHost x = new ContainerHost();
+        x.newImage(NONE);
+        x.write(0, 12, 5);
+        x.write(0, 13, 6);
+        x.seal(0);
+        x.newImage(0);
+        x.remove(1, 12);
+        check.equal("5: one is whited out already", 1, x.clear(1, 3));
+        check.equal("5: its whiteout is taken out", 1, x.entries(1, 1));
+        check.refused("4: nothing is shown in an opaque directory", () -> x.remove(1, 13));
+        x.write(1, 13, 7);
+        check.equal("4: a content in an opaque directory", 7, x.remove(1, 13));
+        check.equal("7: a whiteout in an opaque directory", 0, x.shown(1, 13));
+        check.equal("8: both are entries", 2, x.entries(1, 1));
+        check.equal("3: in place of the whiteout", 0, x.write(1, 13, 8));
+        check.equal("8: still two entries", 2, x.entries(1, 1));
+        check.equal("7: the layer below stays", 6, x.shown(0, 13));
+    }
+
+    private static void aLayerFullOfEntries() {
+        ContainerHost x = new ContainerHost();
+        x.newImage(NONE);
+        for (int directory = 0; directory < 8; directory++) {
+            x.clear(0, directory);
+        }
+        check.equal("8: opaque directories alone", 8, x.entries(0, 0));
+        for (int file = 0; file < 32; file++) {
+            x.write(0, file, 999);
+        }
+        check.equal("8: as many as a layer can have", 40, x.entries(0, 0));
+        for (int file = 0; file < 32; file++) {
+            x.remove(0, file);
+        }
+        check.equal("8: whiteouts in place of all contents", 40, x.entries(0, 0));
+        for (int directory = 0; directory < 8; directory++) {
+            x.clear(0, directory);
+        }
+        check.equal("8: no whiteout is left", 8, x.entries(0, 0));
+    }
+
+    private static void leastAndGreatestContents() {
+        ContainerHost x = new ContainerHost();
+        x.newImage(NONE);
+        check.equal("3: least content", 0, x.write(0, 30, 1));
+        check.equal("3: greatest content", 0, x.write(0, 31, 999));
+        check.equal("7: least content", 1, x.shown(0, 30));
+        check.equal("7: greatest content", 999, x.shown(0, 31));
+        check.equal("4: least content", 1, x.remove(0, 30));
+        check.equal("4: greatest content", 999, x.remove(0, 31));
+    }
+
+    private static void eightLayers() {
+        ContainerHost x = Hosts.withEightLayers();
+        for (int layer = 0; layer < 8; layer++) {
+            check.equal("7: from the layer " + layer, layer + 1, x.shown(7, layer));
+            check.equal("8: of the layer " + layer, 2, x.entries(7, layer));
+            check.equal("7: the top of the image " + layer, layer + 1, x.shown(layer, 31));
+        }
+        check.equal("7: through all eight, nothing", 0, x.shown(7, 30));
+        check.noSuch("8: no layer 8", () -> x.entries(7, 8));
+        check.noSuch("8: no layer -1", () -> x.entries(7, -1));
+        check.refused("2: no ninth layer", () -> x.newImage(7));
+        check.equal("2: one on seven layers", 8, x.newImage(6));
+        check.equal("6: eight layers", 8, x.seal(8));
+    }
+
+    private static void theLowestLayer() {
+        ContainerHost x = new ContainerHost();
+        x.newImage(NONE);
+        x.clear(0, 0);
+        x.write(0, 4, 1);
+        x.remove(0, 4);
+        check.equal("7: nothing below an opaque lowest layer", 0, x.shown(0, 0));
+        check.equal("7: nothing below a whiteout of the lowest layer", 0, x.shown(0, 4));
+        check.equal("7: nothing below an untouched lowest layer", 0, x.shown(0, 8));
+    }
+
+    private static void commitOfAnEmptyLayer() {
+        ContainerHost x = Hosts.withContainers(1);
+        check.equal("9: nothing was changed", 1, x.commit(0));
+        check.equal("9: an empty layer", 0, x.entries(1, 1));
+        check.noSuch("9: and one below it", () -> x.entries(1, 2));
+        check.refused("9: it is sealed", () -> x.write(1, 0, 1));
+        check.equal("9: so it is a base", 2, x.newImage(1));
+        check.equal("9: of three layers then", 3, x.seal(2));
+    }
+
+    private static void commitUpToEightLayers() {
+        ContainerHost x = Hosts.withEightLayers();
+        x.run(6, 0, 15, 1);
+        x.run(7, 0, 15, 1);
+        x.writeFile(0, 31, 500);
+        check.equal("9: on seven layers", 8, x.commit(0));
+        check.equal("9: eight layers then", 1, x.entries(8, 7));
+        check.equal("9: its own layer is the top", 500, x.shown(8, 31));
+        check.equal("9: the lowest is shown", 1, x.shown(8, 0));
+        check.refused("9: on eight layers", () -> x.commit(1));
+        x.stop(1);
+        check.refused("9: on eight layers, STOPPED", () -> x.commit(1));
+        check.equal("9: a tenth image", 9, x.commit(0));
+        check.refused("9: no 11th image", () -> x.commit(0));
+        check.refused("9: neither for it nor on eight layers", () -> x.commit(1));
     }
 }

@@ -15,21 +15,16 @@ public final class NetworksTest {
         connectAnswers();
         connectRefuses();
         connectHostAnswers();
+        everyBridgeFull();
+        everyPortOfAContainer();
+        everyPortOfTheHost();
+        bindForFourPorts();
+        theLeastAddressIsFree();
         check.finish();
     }
 
-    private static ContainerHost hostWithContainers(int number) {
-        ContainerHost x = new ContainerHost();
-        x.newImage(NONE);
-        x.seal(0);
-        for (int i = 0; i < number; i++) {
-            x.run(0, 0, 15, 1);
-        }
-        return x;
-    }
-
     private static void attachAnswers() {
-        ContainerHost x = hostWithContainers(9);
+        ContainerHost x = Hosts.withContainers(9);
         for (int i = 0; i < 6; i++) {
             check.equal("30: the least address", i + 1, x.attach(i, 3));
         }
@@ -44,7 +39,7 @@ public final class NetworksTest {
     }
 
     private static void attachRefuses() {
-        ContainerHost x = hostWithContainers(2);
+        ContainerHost x = Hosts.withContainers(2);
         x.run(0, 0, 11, 1);
         for (int number : WRONG_NUMBERS) {
             check.noSuch("30: container " + number, () -> x.attach(number, 0));
@@ -65,7 +60,7 @@ public final class NetworksTest {
     }
 
     private static void detachAnswers() {
-        ContainerHost x = hostWithContainers(2);
+        ContainerHost x = Hosts.withContainers(2);
         for (int number : WRONG_NUMBERS) {
             check.noSuch("31: container " + number, () -> x.detach(number));
         }
@@ -88,7 +83,7 @@ public final class NetworksTest {
     }
 
     private static void listenAnswers() {
-        ContainerHost x = hostWithContainers(2);
+        ContainerHost x = Hosts.withContainers(2);
         for (int port = 0; port < 16; port++) {
             check.equal("32: ports", port + 1, x.listen(0, port));
         }
@@ -96,7 +91,7 @@ public final class NetworksTest {
     }
 
     private static void listenRefuses() {
-        ContainerHost x = hostWithContainers(1);
+        ContainerHost x = Hosts.withContainers(1);
         x.run(0, 0, 14, 1);
         for (int number : WRONG_NUMBERS) {
             check.noSuch("32: container " + number, () -> x.listen(number, 5));
@@ -121,7 +116,7 @@ public final class NetworksTest {
     }
 
     private static void publishAnswers() {
-        ContainerHost x = hostWithContainers(2);
+        ContainerHost x = Hosts.withContainers(2);
         x.listen(0, 0);
         x.listen(0, 15);
         x.listen(1, 15);
@@ -136,7 +131,7 @@ public final class NetworksTest {
     }
 
     private static void publishRefuses() {
-        ContainerHost x = hostWithContainers(2);
+        ContainerHost x = Hosts.withContainers(2);
         x.listen(0, 5);
         x.listen(1, 6);
         for (int number : WRONG_NUMBERS) {
@@ -162,7 +157,7 @@ public final class NetworksTest {
     }
 
     private static void connectAnswers() {
-        ContainerHost x = hostWithContainers(4);
+        ContainerHost x = Hosts.withContainers(4);
         x.attach(0, 1);
         x.attach(1, 1);
         x.attach(2, 2);
@@ -188,7 +183,7 @@ public final class NetworksTest {
     }
 
     private static void connectRefuses() {
-        ContainerHost x = hostWithContainers(2);
+        ContainerHost x = Hosts.withContainers(2);
         x.attach(0, 0);
         for (int number : WRONG_NUMBERS) {
             check.noSuch("34: container " + number, () -> x.connect(number, 1, 0));
@@ -209,7 +204,7 @@ public final class NetworksTest {
     }
 
     private static void connectHostAnswers() {
-        ContainerHost x = hostWithContainers(2);
+        ContainerHost x = Hosts.withContainers(2);
         for (int number : WRONG_NUMBERS) {
             check.noSuch("35: host port " + number, () -> x.connectHost(number));
         }
@@ -225,5 +220,100 @@ public final class NetworksTest {
         check.equal("35: goes on", 1, x.connectHost(31));
         x.stop(1);
         check.equal("35: STOPPED", NONE, x.connectHost(31));
+    }
+
+    private static void everyBridgeFull() {
+        ContainerHost x = Hosts.withContainers(19);
+        for (int bridge = 0; bridge < 3; bridge++) {
+            for (int address = 1; address <= 6; address++) {
+                int container = bridge * 6 + address - 1;
+                check.equal("30: bridge " + bridge, address, x.attach(container, bridge));
+                check.equal("43: bridge " + bridge, 10 * bridge + address, x.addressOf(container));
+            }
+        }
+        for (int full = 0; full < 3; full++) {
+            int bridge = full;
+            check.refused("30: full bridge " + bridge, () -> x.attach(18, bridge));
+        }
+        check.equal("43: attached nowhere", NONE, x.addressOf(18));
+        check.equal("30: an empty bridge", 1, x.attach(18, 3));
+        check.refused("30: attached, and the other one full", () -> x.attach(18, 0));
+        x.pause(3);
+        x.detach(18);
+        check.refused("30: a PAUSED one keeps its address", () -> x.attach(18, 0));
+        x.stop(3);
+        check.equal("30: a STOPPED one does not", 4, x.attach(18, 0));
+    }
+
+    private static void everyPortOfAContainer() {
+        ContainerHost x = Hosts.withContainers(1);
+        x.attach(0, 0);
+        for (int number = 0; number < 16; number++) {
+            int port = number;
+            check.equal("34: nobody listens on " + port, NONE, x.connect(0, 1, port));
+            check.refused("33: nobody listens on " + port, () -> x.publish(0, port, 0));
+            check.equal("32: port " + port, port + 1, x.listen(0, port));
+            check.refused("32: listens on " + port, () -> x.listen(0, port));
+            check.equal("34: port " + port, 0, x.connect(0, 1, port));
+        }
+        check.noSuch("32: no port 16", () -> x.listen(0, 16));
+        check.noSuch("33: no port 16", () -> x.publish(0, 16, 0));
+        check.noSuch("34: no port 16", () -> x.connect(0, 1, 16));
+    }
+
+    private static void everyPortOfTheHost() {
+        ContainerHost x = Hosts.withContainers(2);
+        x.listen(0, 8);
+        x.listen(1, 8);
+        for (int number = 0; number < 32; number++) {
+            int port = number;
+            check.equal("35: not published yet, " + port, NONE, x.connectHost(port));
+            check.equal("33: port " + port, port + 1, x.publish(port % 2, 8, port));
+            check.refused("33: published, " + port, () -> x.publish(port % 2, 8, port));
+            check.refused("33: published by another, " + port, () -> x.publish(1 - port % 2, 8, port));
+            check.equal("35: port " + port, port % 2, x.connectHost(port));
+        }
+        check.noSuch("33: no port 32", () -> x.publish(0, 8, 32));
+        check.noSuch("35: no port 32", () -> x.connectHost(32));
+        x.stop(1);
+        for (int port = 0; port < 32; port++) {
+            check.equal("35: after the stop, " + port, port % 2 == 0 ? 0 : NONE, x.connectHost(port));
+        }
+        check.equal("33: sixteen are left", 17, x.publish(0, 8, 31));
+        x.stop(0);
+        check.equal("35: none is left", NONE, x.connectHost(31));
+    }
+
+    private static void bindForFourPorts() {
+        ContainerHost x = Hosts.withImage();
+        x.run(0, 0, 14, 1);
+        x.run(0, 0, 1, 1);
+        for (int number = 0; number < 16; number++) {
+            int port = number;
+            if (port < 4) {
+                check.refused("32: without BIND, port " + port, () -> x.listen(0, port));
+            } else {
+                check.equal("32: without BIND, port " + port, port - 3, x.listen(0, port));
+            }
+            check.equal("32: with BIND alone, port " + port, port + 1, x.listen(1, port));
+        }
+        x.drop(1, ContainerHost.BIND);
+        check.equal("33: no BIND to publish", 1, x.publish(1, 0, 0));
+    }
+
+    private static void theLeastAddressIsFree() {
+        ContainerHost x = Hosts.withContainers(6);
+        for (int i = 0; i < 6; i++) {
+            x.attach(i, 1);
+        }
+        x.detach(5);
+        x.detach(0);
+        x.detach(2);
+        check.equal("30: the first one", 1, x.attach(5, 1));
+        check.equal("30: between", 3, x.attach(0, 1));
+        check.equal("30: the last one", 6, x.attach(2, 1));
+        check.equal("31: its bridge", 1, x.detach(5));
+        check.equal("30: detached, it attaches elsewhere", 1, x.attach(5, 0));
+        check.equal("43: bridge and address", 1, x.addressOf(5));
     }
 }

@@ -1,9 +1,14 @@
 import java.util.Arrays;
 
-/** Long runs of calls by a fixed row of numbers: ContainerHost must answer as PlainHost does. */
+/**
+ * Long runs of calls by a fixed row of numbers: ContainerHost must answer as PlainHost does. A run ends
+ * with calls that look alone: they tell also whether a call that threw changed something.
+ */
 public final class RandomRunsTest {
-    private static final int RUNS = 300;
-    private static final int CALLS = 512;
+    private static final int RUNS = 1000;
+    /** An object is promised no more than 512 calls. */
+    private static final int CALLS = 400;
+    private static final int LOOKS = 112;
     private static final int KINDS = 42;
     private static final int[] ODD = {Integer.MIN_VALUE, Integer.MIN_VALUE + 1, -1000, -2, -1, 0, 1, 2, 3, 4, 5,
         6, 7, 8, 9, 10, 15, 16, 19, 20, 31, 32, 33, 99, 100, 101, 999, 1000, 5000, 5001, 10000, 10001,
@@ -13,6 +18,7 @@ public final class RandomRunsTest {
         32, 32, 33};
     /** Calls that end containers or use up what is limited come more seldom. */
     private static final int[] SELDOM = {0, 4, 7, 8, 14, 27, 34};
+    private static final int[] LOOKING = {5, 6, 9, 10, 22, 22, 23, 23, 33, 33, 37, 38, 39, 40, 41};
     /** Each run begins with some images, groups and containers. */
     private static final int[] FIRST = {0, 1, 1, 1, 1, 1, 4, 0, 1, 2, 3, 4, 8, 8, 8, 11, 11, 11, 11, 11, 0, 1};
     private static final Check check = new Check("RandomRunsTest");
@@ -40,7 +46,10 @@ public final class RandomRunsTest {
             if (!answersTheSame("run " + run + ", call " + call, kind, arguments(kind))) {
                 return false;
             }
-            if (call % 64 == 63 && !looksTheSame(run, call)) {
+        }
+        for (int look = 0; look < LOOKS; look++) {
+            int kind = LOOKING[next(LOOKING.length)];
+            if (!answersTheSame("run " + run + ", look " + look, kind, arguments(kind))) {
                 return false;
             }
         }
@@ -167,30 +176,6 @@ public final class RandomRunsTest {
             }
             throw thrown;
         }
-    }
-
-    /** Looks at all that both hosts tell: also that a call that threw changed nothing. */
-    private boolean looksTheSame(int run, int call) {
-        String when = "run " + run + ", looking after call " + call;
-        boolean same = looksAt(when, 33, 32, 1) && looksAt(when, 5, plain.images(), 8)
-                && looksAt(when, 6, plain.images(), 32) && looksAt(when, 9, plain.groups(), 1)
-                && looksAt(when, 10, plain.groups(), 1) && looksAt(when, 22, plain.containers(), 32)
-                && looksAt(when, 23, plain.containers(), 32);
-        for (int kind = 36; kind < KINDS; kind++) {
-            same = same && looksAt(when, kind, plain.containers(), 1);
-        }
-        return same;
-    }
-
-    private boolean looksAt(String when, int kind, int firsts, int seconds) {
-        for (int first = 0; first < firsts; first++) {
-            for (int second = 0; second < seconds; second++) {
-                if (!answersTheSame(when, kind, new int[] {first, second})) {
-                    return false;
-                }
-            }
-        }
-        return true;
     }
 
     private int onReal(int kind, int[] a) {
